@@ -1,0 +1,118 @@
+/** Promises 25 (isSound) and 26 (digest). */
+public final class SumTest {
+    public static void main(String[] args) {
+        isSound();
+        digestOfNew();
+        digestFollowsEachFact();
+        Checks.end("SumTest");
+    }
+
+    private static void isSound() {
+        Cyclepaint x = new Cyclepaint();
+        Checks.due("a new one is sound", x.isSound(), true);
+        x.range(0, 4, 8, 2);
+        x.range(5, 9, 5, 0);
+        x.range(10, 12, 9, 1);
+        x.range(13, 14, 7, 1);
+        for (int entry = 0; entry < 16; entry++) {
+            x.colour(entry, entry / 5);
+            x.paint(entry % 4, entry / 4, 7, entry);
+            x.run(entry + 1);
+            Checks.due("sound with colours up to " + entry, x.isSound(), true);
+        }
+        x.jump(99999);
+        Checks.due("sound at 99999", x.isSound(), true);
+        x.merge();
+        x.stop(1);
+        Checks.due("sound when merged, with one less", x.isSound(), true);
+    }
+
+    /** By hand from the facts of a new object. */
+    private static void digestOfNew() {
+        long sum = 7121;
+        long[] picture = {0, 0, 1, 1, 0, 0, 0, 0, 8, 0, 1, 0};
+        for (long fact : picture) {
+            sum = sum * 31 + fact;
+        }
+        sum = sum * 31 + 1;
+        for (int entry = 0; entry < 16; entry++) {
+            long[] facts = {entry, entry, -1, 1, 1L << entry, entry == 0 ? 32 : 0};
+            for (long fact : facts) {
+                sum = sum * 31 + fact;
+            }
+        }
+        for (int fact = 0; fact < 32 * 4; fact++) {
+            sum = sum * 31;
+        }
+        // 1 never shows 2; 1 never shows 3; now is the lightest; a mean of 0; sound.
+        long[] last = {-1, -1, 0, 0, 1};
+        for (long fact : last) {
+            sum = sum * 31 + fact;
+        }
+        Checks.due("digest() of a new one", new Cyclepaint().digest(), sum);
+    }
+
+    private static void digestFollowsEachFact() {
+        Cyclepaint x = new Cyclepaint();
+        compare(x, "new");
+        x.colour(0, 44);
+        compare(x, "colour");
+        x.paint(1, 2, 6, 3);
+        compare(x, "paint");
+        x.range(1, 3, 2, 2);
+        x.range(5, 8, 1, 1);
+        compare(x, "range");
+        x.run(7);
+        compare(x, "run");
+        x.keep();
+        x.run(3);
+        x.keep();
+        compare(x, "keep");
+        x.colour(2, 1);
+        x.colour(12, 1);
+        x.paint(0, 0, 3, 12);
+        x.limit(3);
+        x.call();
+        compare(x, "limit and call");
+        x.jump(99990);
+        compare(x, "jump");
+        x.merge();
+        x.stop(0);
+        compare(x, "merge and stop");
+    }
+
+    /** The sum, put together from what the other calls answer. */
+    private static void compare(Cyclepaint x, String behind) {
+        long sum = 7121;
+        for (int what = 0; what < 12; what++) {
+            sum = sum * 31 + x.picture(what);
+        }
+        sum = sum * 31 + x.period();
+        for (int entry = 0; entry < 16; entry++) {
+            for (int what = 0; what < 6; what++) {
+                sum = sum * 31 + x.ofEntry(entry, what);
+            }
+        }
+        for (int range = 0; range < x.picture(1); range++) {
+            for (int what = 0; what < 6; what++) {
+                sum = sum * 31 + x.ofRange(range, what);
+            }
+        }
+        for (int row = 0; row < 4; row++) {
+            for (int column = 0; column < 8; column++) {
+                for (int what = 0; what < 4; what++) {
+                    sum = sum * 31 + x.dot(row, column, what);
+                }
+            }
+        }
+        sum = sum * 31 + x.find(1, 2, x.picture(0));
+        sum = sum * 31 + x.meet(1, 3, 5, 5);
+        for (int number = 0; number < x.picture(9); number++) {
+            sum = sum * 31 + x.when(number);
+        }
+        sum = sum * 31 + x.lightest(30);
+        sum = sum * 31 + (long) (16 * x.mean());
+        sum = sum * 31 + (x.isSound() ? 1 : 0);
+        Checks.due("digest() behind " + behind, x.digest(), sum);
+    }
+}
