@@ -2,7 +2,9 @@
 public final class AskedTest {
     public static void main(String[] args) {
         dot();
+        lightOfAll();
         flicker();
+        flickerOfEleven();
         ofEntry();
         still();
         twins();
@@ -36,6 +38,38 @@ public final class AskedTest {
         Checks.noEntryOrPlace("dot(0, 8, 4)", () -> x.dot(0, 8, 4));
         Checks.noSuchValue("dot(0, 0, 4)", () -> x.dot(0, 0, 4));
         Checks.noSuchValue("dot(0, 0, -1)", () -> x.dot(0, 0, -1));
+    }
+
+    private static void lightOfAll() {
+        Cyclepaint x = new Cyclepaint();
+        int[] ofPart = {0, 1, 2, 3};
+        for (int red : ofPart) {
+            for (int green : ofPart) {
+                for (int blue : ofPart) {
+                    int colour = red * 16 + green * 4 + blue;
+                    x.colour(0, colour);
+                    Checks.due("light of " + colour, x.dot(2, 5, 2), red + red + green + green + green + blue);
+                }
+            }
+        }
+    }
+
+    /** 11 is the least that is above 10. */
+    private static void flickerOfEleven() {
+        Cyclepaint x = new Cyclepaint();
+        int[] bases = {0, 1, 2, 3, 3, 3, 3, 3, 4, 4, 5, 6, 7, 8, 9, 10};
+        for (int entry = 0; entry < 16; entry++) {
+            x.colour(entry, bases[entry]);
+        }
+        x.range(0, 15, 2, 0);
+        // 15 steps, from place 0 to 15, 14 and on to 1: five of them go between places of one colour.
+        Checks.due("flicker of ten", x.dot(0, 0, 3), 10);
+        Checks.due("no dot is above 10", x.picture(6), 0);
+        x.colour(8, 11);
+        Checks.due("flicker of eleven", x.dot(0, 0, 3), 11);
+        Checks.due("all dots are above 10", x.picture(6), 32);
+        Checks.due("limit(31)", x.limit(31), true);
+        Checks.due("limit(32)", x.limit(32), false);
     }
 
     private static void flicker() {
@@ -92,6 +126,8 @@ public final class AskedTest {
         Checks.due("the last of the range unsettles the first", x.ofEntry(4, 3), 0);
         x.jump(99999);
         Checks.due("99999 does not matter", x.ofEntry(4, 3), 0);
+        x.range(0, 1, 1, 0);
+        Checks.due("the first of all unsettles its neighbour", x.ofEntry(1, 3), 0);
         Checks.due("behind the range", x.ofEntry(7, 3), 1);
         Checks.due("ahead of the range", x.ofEntry(3, 3), 1);
     }
@@ -158,8 +194,25 @@ public final class AskedTest {
         for (int what = 0; what < want.length; what++) {
             Checks.due("picture(" + what + ")", x.picture(what), want[what]);
         }
+        lightOfRows();
         Checks.noSuchValue("picture(-1)", () -> x.picture(-1));
         Checks.noSuchValue("picture(12)", () -> x.picture(12));
+    }
+
+    /** Each row has its turn as the lightest; no dot has the entry 0, and none shows 0. */
+    private static void lightOfRows() {
+        for (int lightest = 0; lightest < 4; lightest++) {
+            Cyclepaint x = new Cyclepaint();
+            x.colour(14, 63);
+            x.colour(15, 63);
+            for (int row = 0; row < 4; row++) {
+                x.paint(row, 0, 7, row == lightest ? 15 : 1);
+            }
+            Checks.due("light of the lightest row, " + lightest, x.picture(5), 8 * 18);
+            Checks.due("entries without 0", x.picture(2), 2);
+            Checks.due("kinds without 0", x.picture(3), 2);
+            Checks.due("colours without 0", x.picture(10), 2);
+        }
     }
 
     private static void period() {

@@ -147,6 +147,12 @@ public final class ForesightTest {
         Checks.due("401 ticks ahead", x.when(0), -1);
     }
 
+    private static Cyclepaint nextIsLightest() {
+        Cyclepaint x = new Cyclepaint();
+        x.range(0, 1, 1, 0);
+        return x;
+    }
+
     private static void lightest() {
         Cyclepaint x = new Cyclepaint();
         Checks.due("all alike: now", x.lightest(200), 0);
@@ -158,6 +164,7 @@ public final class ForesightTest {
         long before = x.digest();
         // 0 shows 0 0 0 60 60 60 63 63 63, and so round.
         Checks.due("lightest(1)", x.lightest(1), 4);
+        Checks.due("the next tick is the last of two", nextIsLightest().lightest(2), 1);
         Checks.due("lightest(2)", x.lightest(2), 4);
         Checks.due("lightest(3)", x.lightest(3), 6);
         Checks.due("lightest(200): the first of many", x.lightest(200), 6);

@@ -4,6 +4,8 @@ public final class SumTest {
         isSound();
         digestOfNew();
         digestFollowsEachFact();
+        digestOfMeeting();
+        digestOfLightest();
         Checks.end("SumTest");
     }
 
@@ -79,6 +81,37 @@ public final class SumTest {
         x.merge();
         x.stop(0);
         compare(x, "merge and stop");
+    }
+
+    /** meet(1, 3, 5, 5) differs from its neighbours, and from what is said of other entries and colours. */
+    private static void digestOfMeeting() {
+        Cyclepaint x = new Cyclepaint();
+        x.range(0, 3, 3, 0);
+        x.range(4, 6, 5, 0);
+        x.jump(20);
+        int due = x.meet(1, 3, 5, 5);
+        Checks.due("meet(1, 3, 5, 5)", due, 10);
+        int[] others = {x.meet(0, 3, 5, 5), x.meet(2, 3, 5, 5), x.meet(1, 2, 5, 5), x.meet(1, 4, 5, 5),
+            x.meet(1, 3, 4, 5), x.meet(1, 3, 6, 5), x.meet(1, 3, 5, 4), x.meet(1, 3, 5, 6)};
+        for (int other : others) {
+            Checks.due("another meeting than " + other, other != due, true);
+        }
+        compare(x, "a meeting");
+    }
+
+    /** The entry 0 shows 63 from the tick 81 on: 29 ticks behind 52, and 30 behind 51. */
+    private static void digestOfLightest() {
+        Cyclepaint x = new Cyclepaint();
+        x.colour(1, 63);
+        x.range(0, 7, 9, 1);
+        x.jump(52);
+        Checks.due("lightest(29) from 52 on", x.lightest(29), 63);
+        Checks.due("lightest(30) from 52 on", x.lightest(30), 81);
+        compare(x, "the lightest as the last of 30");
+        x.jump(51);
+        Checks.due("lightest(30) from 51 on", x.lightest(30), 63);
+        Checks.due("lightest(31) from 51 on", x.lightest(31), 81);
+        compare(x, "the lightest behind 30");
     }
 
     /** The sum, put together from what the other calls answer. */

@@ -28,6 +28,10 @@ public final class TimeTest {
         // at which entry 5 goes from 4 to 5 and entry 4 from 5 to 4.
         Checks.due("run(200)", x.run(200), 33 * 14 + 7);
         Checks.due("the row shows the last tick", x.row(1), "5 5 5 5 5 0 0 0");
+        x.paint(3, 7, 7, 8);
+        x.range(8, 9, 1, 0);
+        x.stop(0);
+        Checks.due("run(3) of a single dot", x.run(3), 3);
     }
 
     private static void runRefuses() {
