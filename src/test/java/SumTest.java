@@ -6,6 +6,7 @@ public final class SumTest {
         digestFollowsEachFact();
         digestOfMeeting();
         digestOfLightest();
+        digestCutsTheMean();
         Checks.end("SumTest");
     }
 
@@ -54,33 +55,63 @@ public final class SumTest {
         Checks.due("digest() of a new one", new Cyclepaint().digest(), sum);
     }
 
+    /** A new object for each, since to put the sum together takes some 300 of the 512 calls. */
     private static void digestFollowsEachFact() {
-        Cyclepaint x = new Cyclepaint();
-        compare(x, "new");
-        x.colour(0, 44);
-        compare(x, "colour");
-        x.paint(1, 2, 6, 3);
-        compare(x, "paint");
-        x.range(1, 3, 2, 2);
-        x.range(5, 8, 1, 1);
-        compare(x, "range");
-        x.run(7);
-        compare(x, "run");
-        x.keep();
-        x.run(3);
-        x.keep();
-        compare(x, "keep");
-        x.colour(2, 1);
-        x.colour(12, 1);
-        x.paint(0, 0, 3, 12);
-        x.limit(3);
-        x.call();
-        compare(x, "limit and call");
-        x.jump(99990);
-        compare(x, "jump");
-        x.merge();
-        x.stop(0);
-        compare(x, "merge and stop");
+        String[] steps = {"colours and dots", "ranges", "run", "keep", "limit and call", "jump", "merge and stop"};
+        for (int last = -1; last < steps.length; last++) {
+            Cyclepaint x = new Cyclepaint();
+            for (int step = 0; step <= last; step++) {
+                take(x, step);
+            }
+            compare(x, last < 0 ? "nothing" : steps[last]);
+        }
+        compare(Pictures.busy(), "all that makes a busy one");
+        compare(Pictures.full(), "all that makes a full one");
+    }
+
+    private static void take(Cyclepaint x, int step) {
+        switch (step) {
+            case 0:
+                x.colour(0, 44);
+                x.paint(1, 2, 6, 3);
+                break;
+            case 1:
+                x.range(1, 3, 2, 2);
+                x.range(5, 8, 1, 1);
+                break;
+            case 2:
+                x.run(7);
+                break;
+            case 3:
+                x.keep();
+                x.run(3);
+                x.keep();
+                break;
+            case 4:
+                x.colour(2, 1);
+                x.colour(12, 1);
+                x.paint(0, 0, 3, 12);
+                x.limit(3);
+                x.call();
+                break;
+            case 5:
+                x.jump(99990);
+                break;
+            default:
+                x.merge();
+                x.stop(0);
+        }
+    }
+
+    /** 16 times a mean of 3 / 32 is 1.5: what is behind the point is cut, as it is of 0.5. */
+    private static void digestCutsTheMean() {
+        for (int lit = 1; lit < 6; lit++) {
+            Cyclepaint x = new Cyclepaint();
+            x.colour(9, 1);
+            x.paint(3, 0, lit - 1, 9);
+            Checks.due("mean of " + lit, x.mean(), lit * 0.03125);
+            compare(x, lit + " dots of a light of 1");
+        }
     }
 
     /** meet(1, 3, 5, 5) differs from its neighbours, and from what is said of other entries and colours. */
@@ -100,18 +131,23 @@ public final class SumTest {
     }
 
     /** The entry 0 shows 63 from the tick 81 on: 29 ticks behind 52, and 30 behind 51. */
-    private static void digestOfLightest() {
+    private static Cyclepaint lightFrom81(int tick) {
         Cyclepaint x = new Cyclepaint();
         x.colour(1, 63);
         x.range(0, 7, 9, 1);
-        x.jump(52);
-        Checks.due("lightest(29) from 52 on", x.lightest(29), 63);
-        Checks.due("lightest(30) from 52 on", x.lightest(30), 81);
-        compare(x, "the lightest as the last of 30");
-        x.jump(51);
-        Checks.due("lightest(30) from 51 on", x.lightest(30), 63);
-        Checks.due("lightest(31) from 51 on", x.lightest(31), 81);
-        compare(x, "the lightest behind 30");
+        x.jump(tick);
+        return x;
+    }
+
+    private static void digestOfLightest() {
+        Cyclepaint last = lightFrom81(52);
+        Checks.due("lightest(29) from 52 on", last.lightest(29), 63);
+        Checks.due("lightest(30) from 52 on", last.lightest(30), 81);
+        compare(last, "the lightest as the last of 30");
+        Cyclepaint behind = lightFrom81(51);
+        Checks.due("lightest(30) from 51 on", behind.lightest(30), 63);
+        Checks.due("lightest(31) from 51 on", behind.lightest(31), 81);
+        compare(behind, "the lightest behind 30");
     }
 
     /** The sum, put together from what the other calls answer. */
