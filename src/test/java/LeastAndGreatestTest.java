@@ -31,7 +31,7 @@ public final class LeastAndGreatestTest {
         Checks.end("LeastAndGreatestTest");
     }
 
-    /** Rows of 0 but for the entries told: of the least length, and of the most. */
+    /** A new object, all its dots of the entry 0, with one range. */
     private static Cyclepaint ranged(int from, int to, int speed, int kind) {
         Cyclepaint x = new Cyclepaint();
         x.range(from, to, speed, kind);
@@ -308,7 +308,7 @@ public final class LeastAndGreatestTest {
         Checks.due("the most light of a row", x.picture(5), 8 * 18);
         Checks.due("no dot has a flicker above 10", x.picture(6), 0);
         Checks.due("all dots have a flicker above 10", eachTickAllDots().picture(6), 32);
-        Checks.due("colours of 63 and of 0", Pictures.full().picture(10), 5);
+        Checks.due("unlike colours, one shown by two entries", Pictures.full().picture(10), 5);
     }
 
     private static void period() {
@@ -391,7 +391,8 @@ public final class LeastAndGreatestTest {
         Checks.due("above 99999", x.meet(0, 0, 7, 7), 112 - 99999 % 112);
         Checks.due("never: a colour that none has", x.meet(0, 63, 7, 7), -1);
         Checks.due("never: the second colour", x.meet(0, 0, 7, 6), -1);
-        Checks.due("the same entry and colour", x.meet(0, 3, 0, 3), 3 + 7 - 99999 % 7 - 6);
+        Checks.due("the same entry and colour, now at a shift of 4", x.meet(0, 3, 0, 3), 0);
+        Checks.due("the same entry and colour, the last tick of its round", x.meet(0, 4, 0, 4), 6);
         Checks.due("the same entry, two colours", x.meet(0, 3, 0, 4), -1);
         Cyclepaint still = new Cyclepaint();
         still.colour(15, 63);
