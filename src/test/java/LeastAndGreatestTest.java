@@ -158,6 +158,21 @@ public final class LeastAndGreatestTest {
         all.paint(2, 0, 7, 15);
         all.paint(3, 0, 7, 15);
         Checks.due("all dots have another entry", all.merge(), 32);
+        mergeOfTheLeastColour();
+    }
+
+    private static void mergeOfTheLeastColour() {
+        Cyclepaint x = new Cyclepaint();
+        x.colour(15, 0);
+        x.paint(3, 0, 7, 15);
+        Checks.due("the greatest entry becomes the least, both of the least colour", x.merge(), 8);
+        Checks.due("it is 0", x.dot(3, 7, 0), 0);
+        x.colour(0, 1);
+        x.colour(5, 0);
+        x.paint(2, 0, 1, 15);
+        Checks.due("the least colour, though 0 has another", x.merge(), 2);
+        Checks.due("15 became 5", x.dot(2, 0, 0), 5);
+        Checks.due("0 and 1 are twins, and 0 is the smallest", x.dot(0, 0, 0), 0);
     }
 
     private static Cyclepaint eachTickAllDots() {
